@@ -146,7 +146,6 @@ public final class QuestionTest {
     fault(x, 1, "@care");
     fault(x, 1, "@5");
     fault(x, 1, "first@");
-    fault(x, 1, "first @care");
     fault(x, 1, "first care@");
     fault(x, 1, "first care @5");
     fault(x, 1, "total care @< 5");
