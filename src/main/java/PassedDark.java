@@ -790,6 +790,7 @@ public final class PassedDark {
 
   /** What a course's text tells; it stays as it is read. */
   static final class Course {
+    static final int FARTHEST = 99;
     static final int EACH = 8;
     static final int LETTERS = 6;
     static final int LIGHT = 0;
@@ -867,7 +868,7 @@ public final class PassedDark {
       clear();
       tape.begin();
       tape.expectWord(Words.COURSE);
-      miles = tape.expectNumber(5, 99);
+      miles = tape.expectNumber(5, FARTHEST);
       tape.expect(';');
       for (statements = 1; statements < STATEMENTS && goesOn(); statements++) {
         int word = tape.kind == Tape.WORD ? tape.value : NONE;
@@ -887,7 +888,19 @@ public final class PassedDark {
           ends[formula] = script.size;
         } else {
           tape.next();
-          readNumbers(word);
+          switch (word) {
+            case Words.BEARER:
+              readBearer();
+              break;
+            case Words.HOUSE:
+              readHouse();
+              break;
+            case Words.DARK:
+              dark = tape.expectNumber(1, State.STRONGEST);
+              break;
+            default:
+              trip = tape.expectNumber(0, 100);
+          }
         }
         tape.expect(';');
       }
@@ -932,22 +945,6 @@ public final class PassedDark {
       script.size = 0;
       for (int i = 0; i < FORMULAS; i++) {
         ends[i] = 0;
-      }
-    }
-
-    private void readNumbers(int word) {
-      switch (word) {
-        case Words.BEARER:
-          readBearer();
-          break;
-        case Words.HOUSE:
-          readHouse();
-          break;
-        case Words.DARK:
-          dark = tape.expectNumber(1, State.STRONGEST);
-          break;
-        default:
-          trip = tape.expectNumber(0, 100);
       }
     }
 
@@ -1453,8 +1450,9 @@ public final class PassedDark {
     private static final int TOLD = 40;
     private static final int ACTS = 20;
     private static final int ROW = State.NUMBERS + 1;
-    // Acts that are undone take back what they kept, so all hours are held, not the last alone.
-    private final int[] log = new int[4 * State.LAST_HOUR];
+    // Acts that are undone take back what they kept, so all rows are held, not the last alone:
+    // no more than there can be miles, as each one is of a mile beyond that of the one before.
+    private final int[] log = new int[4 * Course.FARTHEST];
     private int logged = 0;
     private final int[] before = new int[ACTS * ROW];
     private int newest = 0;

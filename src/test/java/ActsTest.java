@@ -90,6 +90,8 @@ public final class ActsTest {
     due("aside(1,1)", x.aside(1, 1), true);
     due("bearer(1,2)", x.bearer(1, 2), 1);
     due("aside(1,1), he is so", x.aside(1, 1), false);
+    due("aside(1,2) of one aside", x.aside(1, 2), false);
+    due("aside(1,-1) of one aside", x.aside(1, -1), false);
     due("has(11)", x.has(11), 1);
     x.hours(2);
     due("has(4): nobody takes it", x.has(4), 6);
@@ -101,7 +103,7 @@ public final class ActsTest {
     due("aside(1,-1)", x.aside(1, -1), false);
     due("aside(2,1)", x.aside(2, 1), false);
     due("aside(-1,1)", x.aside(-1, 1), false);
-    due("status(2)", x.status(2), 8);
+    due("status(2)", x.status(2), 10);
     due("has(11)", x.has(11), 3);
   }
 
@@ -278,6 +280,16 @@ public final class ActsTest {
     handed.undo();
     due("has(6) undone", handed.has(6), 0);
     due("bearer(1,0) undone", handed.bearer(1, 0), 5);
+    handed.hours(2);
+    handed.aside(0, 1);
+    handed.hours(1);
+    due("has(7)", handed.has(7), 2);
+    handed.undo();
+    due("has(6) undone to b", handed.has(6), 1);
+    due("house(0,2) undone", handed.house(0, 2), 1);
+    due("house(1,2) undone", handed.house(1, 2), 0);
+    due("bearer(0,2) undone", handed.bearer(0, 2), 1);
+    due("bearer(0,0) undone", handed.bearer(0, 0), 5);
   }
 
   private static void twentyAtMost() {

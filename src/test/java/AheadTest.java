@@ -174,6 +174,12 @@ public final class AheadTest {
         + "bearer c at 5 pace 1;bearer d at 4 pace 1;dark 6;wanes strength-1+handed*2;").few(), 2 + 4);
     due("few() of like ones the least bits", course("course 9;bearer a at 0 pace 1;bearer b at 2 pace 1;"
         + "bearer c at 5 pace 1;bearer d at 4 pace 1;dark 8;wanes strength-1+handed*2;").few(), 2);
+    due("few() of one rather than two", course("course 9;bearer a at 0 pace 1;bearer b at 2 pace 2;"
+        + "bearer c at 3 pace 2;bearer d at 1 pace 9;dark 5;wanes strength-1+handed;").few(), 8);
+    due("few() with bearer 0 needed", course("course 9;bearer a at 4 pace 9;bearer b at 0 pace 2;"
+        + "bearer c at 3 pace 1;dark 4;wanes strength-1;").few(), 1);
+    due("few() with bearer 0 in the way", course("course 9;bearer a at 4 pace 1;bearer b at 0 pace 2;"
+        + "bearer c at 3 pace 9;dark 6;wanes strength-1;").few(), 0);
     PassedDark through = course(THREE);
     through.kindle(99);
     through.hours(20);
@@ -200,6 +206,9 @@ public final class AheadTest {
     due("post(1,1)", x.post(1, 1), -1);
     due("post(2,0)", x.post(2, 0), 1);
     due("post(2,1): 7 hours", x.post(2, 1), 5);
+    PassedDark one = course("course 9;bearer a at 0 pace 9;bearer b at 0 pace 9;dark 2;wanes strength-1;");
+    due("post(1,0) with 1 left", one.post(1, 0), 0);
+    due("post(1,1) with 1 left", one.post(1, 1), 1);
     PassedDark last = course("course 9;bearer a at 0 pace 9;bearer b at 0 pace 9;wanes strength-2+handed;");
     due("post(1,0)", last.post(1, 0), 9);
     due("post(1,1)", last.post(1, 1), 49);
@@ -229,6 +238,22 @@ public final class AheadTest {
     PassedDark one = course("course 9;bearer a at 0 pace 1;wanes strength-9;");
     due("change(2) of one who goes out", one.change(2), 0);
     due("change(0)", one.change(0), -1);
+    PassedDark slow = course("course 99;bearer a at 0 pace 1;bearer b at 5 pace 9;bearer c at 70 pace 1;"
+        + "wanes strength-handed*10;");
+    due("through()", slow.through(), 42);
+    due("change(0): the other way it does not come through in 60", slow.change(0), -1);
+    due("change(2)", slow.change(2), 30);
+    PassedDark zero = course("course 12;bearer c at 10 pace 6;bearer a at 0 pace 1;bearer b at 3 pace 2;dark 40;wanes strength-5;");
+    due("change(0) of bearer 0", zero.change(0), 0);
+    due("change(1) of bearer 0", zero.change(1), 2);
+    due("change(2) of bearer 0", zero.change(2), 10);
+    // With d at 1 it takes 6 hours; with c there and d at 5 it would take 4, but those are three.
+    PassedDark three = course("course 20;bearer a at 0 pace 1;bearer b at 1 pace 1;bearer c at 5 pace 4;"
+        + "bearer d at 20 pace 9;wanes strength-1;");
+    due("through() of three", three.through(), 9);
+    due("change(0) of three", three.change(0), 1);
+    due("change(1) of three", three.change(1), 3);
+    due("change(2) of three", three.change(2), 50 - 6);
     PassedDark pairs = course("course 9;bearer a at 0 pace 1;bearer b at 9 pace 9;bearer c at 1 pace 1;"
         + "bearer d at 1 pace 1;wanes strength-1;");
     due("change(0), of like ones the first", pairs.change(0), 1);
@@ -257,6 +282,8 @@ public final class AheadTest {
     due("odds()", x.odds(), 1000);
     x.kindle(5);
     due("odds() of 5, less 3", x.odds(), 600 + 40 * 2);
+    x.kindle(4);
+    due("odds() of 4, less 3", x.odds(), 600 + 40);
     x.kindle(3);
     due("odds() of 3, less 3", x.odds(), 0);
     x.kindle(12);

@@ -73,6 +73,7 @@ public final class CourseTest {
     tooMany();
     theFirstFaultCounts();
     allAsAtFirst();
+    oneBehindTheOther();
     if (wrong != 0) {
       System.exit(1);
     }
@@ -140,6 +141,10 @@ public final class CourseTest {
     fault(1, "course 5;dark@");
     fault(1, "course 5;dark 5@");
     fault(1, "course 5;dark 5@,");
+    fault(1, "course 5;@" + (char) 0);
+    fault(1, "course 5;dark 5@" + (char) 0 + ";");
+    fault(1, "course 5;@" + (char) 255);
+    fault(1, "course 5;@" + (char) 13);
     fault(1, "course 5;dark @all;");
     fault(1, "course 5;dark @-5;");
     fault(1, "course 5;dark@5;");
@@ -169,6 +174,8 @@ public final class CourseTest {
     fault(1, "course 5;light ((hour)@;");
     fault(1, "course 5;light hour@);");
     fault(1, "course 5;light min @hour;");
+    fault(1, "course 5;light min@;");
+    fault(1, "course 5;light 3+max@");
     fault(1, "course 5;light min(hour@);");
     fault(1, "course 5;light max(hour,mile@,3);");
     fault(1, "course 5;light 3 + @;");
@@ -281,6 +288,44 @@ public final class CourseTest {
     fault(1, "course 5;@what 100;");
     fault(3, "course 5;bearer a at 0 pace 1;bearer @a at 9 pace 0;");
     fault(1, "course 5;dark 1111@1;dark 0;");
+  }
+
+  private static int read(PassedDark x, String text) {
+    feed(x, text);
+    return x.course();
+  }
+
+  /** Nothing of a course that was read ahead of another one is left in that. */
+  private static void oneBehindTheOther() {
+    PassedDark x = new PassedDark();
+    for (int i = 0; i < 4; i++) {
+      due("a course with all", read(x, "course 9;takes 1=2;wanes 7+0*strength;light 3;trip 40;dark 20;"
+          + "bearer a at 4 pace 1;house h at 5 care 1;bearer bcdefg at 6 pace 2;"), 9);
+      due("light(0,0)", x.light(0, 0), 3);
+      due("later(1,1)", x.later(1, 1), 7);
+      due("bearer(1,3)", x.bearer(1, 3), 0);
+      x.aside(1, 1);
+      x.hours(2);
+      due("a fault with much open", read(x, "course 9;light ((((((1"), -1);
+      due("a fault with more open", read(x, "course 9;light ((((((("), -1);
+      due("fault(0)", x.fault(0), 4);
+      due("has(4) stays", x.has(4), 6);
+      due("a course with nothing", read(x, "course 5;"), 1);
+      int[] has = {5, 0, 0, 0, 0, 50, -1, 0, 0, 0, 0, 0};
+      for (int what = 0; what < has.length; what++) {
+        due("has(" + what + ") of nothing", x.has(what), has[what]);
+      }
+      due("light(0,0) of nothing", x.light(0, 0), 0);
+      due("letter(0,0,0) of nothing", x.letter(0, 0, 0), -1);
+      due("a course with little", read(x, "course 9;bearer bc at 1 pace 5;light((((((2))))));"), 3);
+      due("has(6)", x.has(6), 0);
+      due("bearer(0,2)", x.bearer(0, 2), 0);
+      due("bearer(0,3)", x.bearer(0, 3), 1);
+      due("letter(0,0,2)", x.letter(0, 0, 2), 0);
+      due("later(1,1)", x.later(1, 1), 48);
+      due("chance(2)", x.chance(2), 0);
+    }
+    due("status(1)", x.status(1), 8);
   }
 
   private static void allAsAtFirst() {

@@ -96,6 +96,10 @@ public final class ImageTest {
     x.hours(100);
     x.hours(100);
     image(x, 1, 45, 10, 40, 1, 5, 0, 10, 0, 1, 1);
+    x.hours(100);
+    x.hours(100);
+    x.hours(11);
+    image(x, 2, 0, 10, 40, 1, 5, 0, 10, 0, 1, 1);
     image(course("course 9;house h at 2 care 20;"), 0, 0, 0, 50, 255, 0);
     image(course("course 9;bearer a at 9 pace 1;"), 0, 0, 9, 50, 0, 9, 0);
   }
@@ -133,6 +137,14 @@ public final class ImageTest {
     due("has(3)", y.has(3), 522);
     due("has(6)", y.has(6), 1);
     due("house(1,2)", y.house(1, 2), 1);
+    due("bearer(1,2)", y.bearer(1, 2), 0);
+    feed(y, summed(0, 0, 7, 33, 1, 0, 1, 7, 0, 0, 0));
+    due("on() with one aside", y.on() ? 1 : 0, 1);
+    due("bearer(0,2)", y.bearer(0, 2), 1);
+    feed(y, summed(0, 0, 7, 33, 1, 0, 0, 7, 0, 0, 0));
+    due("on() with none aside", y.on() ? 1 : 0, 1);
+    due("bearer(0,2)", y.bearer(0, 2), 0);
+    due("has(7)", y.has(7), 0);
   }
 
   private static void clearsThePast() {
@@ -172,6 +184,8 @@ public final class ImageTest {
     refused(x, "one who is elsewhere", summed(0, 1, 3, 47, 0, 2, 0, 5, 1, 1, 0));
     refused(x, "one who is elsewhere", summed(0, 1, 3, 47, 1, 3, 0, 5, 0, 1, 0));
     refused(x, "another's mile 11", summed(0, 1, 3, 47, 0, 3, 0, 11, 1, 1, 0));
+    refused(x, "the first one's mile 11", summed(0, 1, 3, 47, 1, 11, 0, 3, 0, 1, 0));
+    refused(x, "the first one's flag 2", summed(0, 1, 3, 47, 1, 3, 2, 3, 0, 1, 0));
     refused(x, "flag 2 of a bearer", summed(0, 1, 3, 47, 0, 3, 0, 5, 2, 1, 0));
     refused(x, "flag 2 of a house", summed(0, 1, 3, 47, 0, 3, 0, 5, 1, 2, 0));
     refused(x, "flag 255 of the last house", summed(0, 1, 3, 47, 0, 3, 0, 5, 1, 1, 255));

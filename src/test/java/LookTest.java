@@ -81,6 +81,10 @@ public final class LookTest {
       due("letter of one", x.letter(0, 1, k), k == 0 ? 26 : 0);
       due("letter of two", x.letter(1, 0, k), k == 0 ? 13 : k == 1 ? 25 : 0);
     }
+    PassedDark houses = course("course 9;house a at 0 care 1;house bc at 0 care 1;bearer d at 1 pace 1;");
+    due("letter(1,1,0)", houses.letter(1, 1, 0), 2);
+    due("letter(1,1,1)", houses.letter(1, 1, 1), 3);
+    due("letter(1,1,2)", houses.letter(1, 1, 2), 0);
     due("letter(0,0,6)", x.letter(0, 0, 6), -1);
     due("letter(0,0,-1)", x.letter(0, 0, -1), -1);
     due("letter(0,2,0)", x.letter(0, 2, 0), -1);
@@ -212,8 +216,12 @@ public final class LookTest {
     due("kept(0,0)", x.kept(0, 0), 1);
     due("kept(39,2)", x.kept(39, 2), 41);
     due("kept(40,2)", x.kept(40, 2), -1);
-    x.hours(30);
-    due("kept(0,0)", x.kept(0, 0), 31);
+    x.hours(58);
+    due("kept(0,0)", x.kept(0, 0), 59);
+    due("kept(39,2), the last mile there can be", x.kept(39, 2), 99);
+    due("hours(1)", x.hours(1), 0);
+    due("kept(39,2)", x.kept(39, 2), 99);
+    x.undo();
     x.undo();
     due("kept(0,0) of those ahead of an act undone", x.kept(0, 0), 1);
     x.undo();

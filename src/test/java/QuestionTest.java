@@ -98,6 +98,12 @@ public final class QuestionTest {
     ask(x, " \n total\n9999*9999 ", 5000000);
     ask(x, "total 0-9999*9999", -5000000);
     ask(x, "most 0-1", -1);
+    ask(x, "least mile", 2);
+    ask(x, "least 20-mile", 0);
+    ask(x, "most 2", 2);
+    for (int i = 0; i < 50; i++) {
+      ask(x, "total (number+1)*2-1+number*0+number*0+number*0+number*0+number*0+number*0", 25);
+    }
   }
 
   private static void litAndFrom(PassedDark x) {

@@ -103,6 +103,8 @@ public final class SeenTest {
     see(x, -1, 1, 0, 2);
     see(x, -1, 1, 0, 255);
     see(x, -1, 1, 0, 0, 1, 0, 0, 1, 2, 0);
+    see(x, -1, 1, 0, 0, 31, 0, 0);
+    see(x, -1, 1, 0, 0, 1, 0, 2);
     see(x, -1, new int[51]);
     left(x, 20, 99);
     see(course("course 9;bearer a at 0 pace 1;"), -1, 0, 0, 0);
@@ -127,6 +129,10 @@ public final class SeenTest {
     see(x, 1, 3, 1, 1);
     left(x, 50, 99);
     see(x, 2, 1, 0, 1, 30, 1, 0);
+    left(x, 20, 49);
+    see(x, 2, 30, 1, 0, 1, 0, 1);
+    left(x, 20, 49);
+    see(x, 3, 30, 1, 0, 30, 1, 0, 1, 0, 1);
     left(x, 20, 49);
     see(x, 2, 1, 0, 1, 5, 0, 0);
     left(x, 0, -1);
@@ -168,6 +174,13 @@ public final class SeenTest {
     PassedDark alike = course("course 9;bearer a at 0 pace 1;house h at 2 care 30;house k at 2 care 70;wanes strength;");
     // 70 by 30 either way, in the second hour and later.
     tells(alike, 2, 0, 70);
+    PassedDark one = course("course 9;bearer a at 0 pace 1;house h at 1 care 98;house k at 2 care 98;wanes strength-1;");
+    see(one, 2, 1, 0, 1, 2, 1, 0);
+    left(one, 98, 98);
+    tells(one, 1, 0, 1);
+    PassedDark passed = course("course 9;bearer a at 0 pace 1;house h at 1 care 1;");
+    passed.hours(1);
+    tells(passed, 1, 0, 100);
     PassedDark nobody = course("course 9;house h at 2 care 50;");
     tells(nobody, 1, 0, 100);
     PassedDark far = course("course 40;bearer a at 0 pace 1;house h at 30 care 50;house k at 31 care 50;wanes strength;");
