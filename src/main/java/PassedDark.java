@@ -643,7 +643,10 @@ public final class PassedDark {
     }
   }
 
-  /** Reads a TEST or a SUM from the tape into a script. */
+  /**
+   * Reads a TEST or a SUM from the tape into a script. Every way back into a method that is open
+   * goes through opens(), which keeps them few.
+   */
   static final class Grammar {
     private static final int DEEPEST = 6;
     private final Tape tape;
@@ -662,7 +665,7 @@ public final class PassedDark {
       open = 0;
     }
 
-    void test() {
+    private void test() {
       both();
       for (int i = 0; i < Tape.ROOM && tape.isWord(Words.OR); i++) {
         tape.next();
@@ -709,7 +712,7 @@ public final class PassedDark {
       }
     }
 
-    void sum() {
+    private void sum() {
       product();
       for (int i = 0; i < Tape.ROOM && (tape.kind == '+' || tape.kind == '-'); i++) {
         int sign = tape.kind;

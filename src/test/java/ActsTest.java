@@ -286,10 +286,17 @@ public final class ActsTest {
     due("has(7)", handed.has(7), 2);
     handed.undo();
     due("has(6) undone to b", handed.has(6), 1);
+    due("has(7) undone", handed.has(7), 1);
     due("house(0,2) undone", handed.house(0, 2), 1);
     due("house(1,2) undone", handed.house(1, 2), 0);
     due("bearer(0,2) undone", handed.bearer(0, 2), 1);
     due("bearer(0,0) undone", handed.bearer(0, 0), 5);
+    handed.undo();
+    handed.kindle(3);
+    handed.undo();
+    due("has(6) undone, nobody aside", handed.has(6), 1);
+    due("has(5) undone", handed.has(5), 45);
+    due("bearer(0,2) undone", handed.bearer(0, 2), 0);
   }
 
   private static void twentyAtMost() {

@@ -171,7 +171,7 @@ public final class LanguageTest {
     Map<Object, Boolean> seen = new IdentityHashMap<>();
     long elements = count(new PassedDark(), seen);
     rule(12, seen.size() <= 100, seen.size() + " objects and arrays by one constructor");
-    rule(12, elements <= 13000, elements + " fields and elements by one constructor");
+    rule(12, elements <= 9000, elements + " fields and elements by one constructor");
     rule(8, !bare.contains("this.course()") && !bare.contains("null"), "a reference that may be null");
   }
 
