@@ -922,7 +922,7 @@ public final class PassedDark {
       }
     }
 
-    /** How many more statements there may be of those that a word begins; NONE if it begins none. */
+    /** How many more statements a word may begin; NONE if it begins none. */
     private int roomFor(int word, int formula) {
       if (formula >= 0 && formula < FORMULAS) {
         return ends[formula] == 0 ? 1 : 0;
