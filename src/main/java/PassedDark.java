@@ -1164,19 +1164,20 @@ public final class PassedDark {
       if (course.hasBearer(runner) && state.isAlight() && !state.isThrough(course)) {
         int last = Math.min(state.mile + course.paces[runner], course.miles);
         int mile = state.mile;
-        int light = 0;
         int taker = NONE;
         while (mile < last && taker == NONE) {
           mile++;
-          light = course.lightAt(mile, state.hour);
           for (int i = 0; i < Course.EACH && taker == NONE; i++) {
-            boolean met = i != runner && course.hasBearer(i) && state.waitsAt(i, mile);
-            taker = met && wouldTake(course, state, i, light) ? i : NONE;
+            if (i != runner && course.hasBearer(i) && state.waitsAt(i, mile)) {
+              int light = course.lightAt(mile, state.hour);
+              taker = wouldTake(course, state, i, light) ? i : NONE;
+            }
           }
         }
         run = mile - state.mile;
         state.passHouses(course, mile);
         state.advance(mile, taker);
+        int light = course.lightAt(mile, state.hour);
         state.strength = waned(course, state, runner, taker, run, light);
       }
       state.hour = Math.min(state.hour + 1, State.LAST_HOUR);
