@@ -17,7 +17,7 @@ public final class AgainstModelTest {
   private static final Map<String, Integer> seen = new HashMap<>();
 
   public static void main(String[] args) {
-    int runs = args.length > 0 ? Integer.parseInt(args[0]) : 3000;
+    int runs = args.length > 0 ? Integer.parseInt(args[0]) : 12000;
     int first = args.length > 1 ? Integer.parseInt(args[1]) : 0;
     for (int run = first; run < first + runs && wrong < 20; run++) {
       new Run(run).play();
@@ -38,16 +38,22 @@ public final class AgainstModelTest {
   // ---------------------------------------------------------------- one run of calls
 
   private static final class Run {
+    // What an object answers behind this many calls is free.
+    static final int CALLS = 512;
+    static final int DEAREST_STEP = 100;
     final int number;
     final Chance chance;
     final PassedDark dark = new PassedDark();
     final Model model = new Model();
     final List<String> told = new ArrayList<>();
+    final boolean actsAlone;
     boolean same = true;
+    int made = 0;
 
     Run(int number) {
       this.number = number;
       chance = new Chance(number);
+      actsAlone = chance.one(4);
     }
 
     void play() {
@@ -60,8 +66,7 @@ public final class AgainstModelTest {
         posts();
         tells();
       }
-      int most = 40 + chance.below(120);
-      for (int i = 0; i < most && same; i++) {
+      while (same && made <= CALLS - DEAREST_STEP) {
         step();
       }
       if (!same) {
@@ -75,6 +80,7 @@ public final class AgainstModelTest {
 
     void check(String call, long got, long due) {
       calls++;
+      made++;
       told.add(call + " -> " + got + (got == due ? "" : ", due is " + due));
       same = same && got == due;
     }
@@ -126,7 +132,7 @@ public final class AgainstModelTest {
     }
 
     void step() {
-      switch (chance.below(36)) {
+      switch (actsAlone ? 1 + chance.below(16) : chance.below(36)) {
         case 0: look(); break;
         case 1: case 2: case 3: place(); break;
         case 4: case 5: aside(); break;
@@ -150,8 +156,12 @@ public final class AgainstModelTest {
         case 34: kept(); break;
         default: status(); break;
       }
-      for (int what = 3; what <= 11 && same; what++) {
+      for (int i = actsAlone ? 8 : 5; i > 0 && same; i--) {
+        int what = 3 + chance.below(9);
         check("has(" + what + ")", dark.has(what), model.has(what));
+      }
+      if (actsAlone && chance.one(12)) {
+        kept();
       }
     }
 
@@ -159,16 +169,16 @@ public final class AgainstModelTest {
       for (int what = -1; what <= 12; what++) {
         check("has(" + what + ")", dark.has(what), model.has(what));
       }
-      for (int i = -1; i <= 8; i++) {
+      for (int times = 0; times < 3; times++) {
+        int i = chance.below(10) - 1;
         for (int what = -1; what <= 4; what++) {
           check("bearer(" + i + "," + what + ")", dark.bearer(i, what), model.bearer(i, what));
           check("house(" + i + "," + what + ")", dark.house(i, what), model.house(i, what));
         }
+        int kind = chance.one(9) ? chance.below(4) - 1 : chance.below(2);
         for (int k = -1; k <= 6; k++) {
-          for (int kind = -1; kind <= 2; kind++) {
-            check("letter(" + kind + "," + i + "," + k + ")", dark.letter(kind, i, k),
-                model.letter(kind, i, k));
-          }
+          check("letter(" + kind + "," + i + "," + k + ")", dark.letter(kind, i, k),
+              model.letter(kind, i, k));
         }
       }
     }
@@ -218,15 +228,16 @@ public final class AgainstModelTest {
     void image() {
       int size = dark.image();
       check("image()", size, model.image());
+      byte[] bytes = new byte[Math.max(0, size)];
       for (int k = -1; k <= size; k++) {
-        check("octet(" + k + ")", dark.octet(k), model.octet(k));
+        int octet = dark.octet(k);
+        check("octet(" + k + ")", octet, model.octet(k));
+        if (k >= 0 && k < size) {
+          bytes[k] = (byte) octet;
+        }
       }
       if (chance.one(3)) {
         return;
-      }
-      byte[] bytes = new byte[Math.max(0, size)];
-      for (int k = 0; k < bytes.length; k++) {
-        bytes[k] = (byte) dark.octet(k);
       }
       int changes = chance.below(3);
       for (int i = 0; i < changes; i++) {
@@ -383,7 +394,8 @@ public final class AgainstModelTest {
     }
 
     void kept() {
-      for (int k = -1; k <= Math.min(41, model.has(9)); k++) {
+      int told = model.has(9);
+      for (int k : new int[] {-1, 0, told - 1, told, chance.below(told), chance.below(told)}) {
         for (int what = -1; what <= 4; what++) {
           check("kept(" + k + "," + what + ")", dark.kept(k, what), model.kept(k, what));
         }

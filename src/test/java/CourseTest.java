@@ -74,6 +74,7 @@ public final class CourseTest {
     theFirstFaultCounts();
     allAsAtFirst();
     oneBehindTheOther();
+    longCoursesBehindOneAnother();
     if (wrong != 0) {
       System.exit(1);
     }
@@ -326,11 +327,15 @@ public final class CourseTest {
       due("chance(2)", x.chance(2), 0);
     }
     due("status(1)", x.status(1), 8);
+  }
+
+  private static void longCoursesBehindOneAnother() {
+    PassedDark x = new PassedDark();
     StringBuilder ones = new StringBuilder("course 9;light 0-396");
     for (int i = 0; i < 400; i++) {
       ones.append("+1");
     }
-    for (int i = 0; i < 12; i++) {
+    for (int i = 0; i < 10; i++) {
       due("a long course", read(x, ones + ";"), 2);
       due("light(0,0) of a long course", x.light(0, 0), 4);
     }

@@ -53,17 +53,21 @@ public final class QuestionTest {
       + "house h at 2 care 20;house k at 5 care 48;house l at 6 care 0;house m at 15 care 70;"
       + "house n at 20 care 7;light mile-hour*2;wanes strength-5;";
 
-  public static void main(String[] args) {
+  private static PassedDark five() {
     PassedDark x = course(FIVE);
     x.hours(2);
-    words(x);
-    sorts(x);
-    litAndFrom(x);
-    formulas(x);
-    faults(x);
+    return x;
+  }
+
+  public static void main(String[] args) {
+    words(five());
+    sorts(five());
+    manyBehindOneAnother(five());
+    litAndFrom(five());
+    formulas(five());
+    faults(five());
     withoutHouses();
     withoutACourse();
-    nothingIsChanged(x);
     if (wrong != 0) {
       System.exit(1);
     }
@@ -101,9 +105,15 @@ public final class QuestionTest {
     ask(x, "least mile", 2);
     ask(x, "least 20-mile", 0);
     ask(x, "most 2", 2);
-    for (int i = 0; i < 50; i++) {
-      ask(x, "total (number+1)*2-1+number*0+number*0+number*0+number*0+number*0+number*0", 25);
+    nothingIsChanged(x);
+  }
+
+  private static void manyBehindOneAnother(PassedDark x) {
+    String text = "total (number+1)*2-1" + "+number*0".repeat(20);
+    for (int i = 0; i < 25; i++) {
+      ask(x, text, 25);
     }
+    nothingIsChanged(x);
   }
 
   private static void litAndFrom(PassedDark x) {
@@ -132,6 +142,7 @@ public final class QuestionTest {
     ask(late, "total lit 998", 6);
     ask(late, "total lit 999", 7);
     ask(late, "total lit 1000", 0);
+    nothingIsChanged(x);
   }
 
   private static void formulas(PassedDark x) {
@@ -180,7 +191,7 @@ public final class QuestionTest {
     ask(x, "total lit 1*lit 1*0+lit 1*0+lit 1*0+lit 1*0+from 1*0+from 1*0+(1)", 5);
     due("status(1): a question with a fault is not refused", x.status(1), 0);
     fault(x, 1, "@course 5;");
-    due("has(0)", x.has(0), 20);
+    nothingIsChanged(x);
   }
 
   private static void withoutHouses() {
